@@ -41,6 +41,26 @@ public final class LayersTest {
         DUE.is("21 NONE ahead of STATE", x.layer(5), NONE);
         x.allow(3, 1, 1);
         DUE.is("21 allowed", x.layer(0), 3);
+        chains();
+    }
+
+    /** Each part needs the next one; then each the one ahead of it. */
+    private static void chains() {
+        RingUntie up = Due.withParts(10);
+        RingUntie down = Due.withParts(10);
+        for (int p = 0; p < 9; p++) {
+            Due.body(up, p, "call " + (p + 1));
+            Due.body(down, p + 1, "call " + p);
+        }
+        for (int p = 0; p < 10; p++) {
+            DUE.is("21 the next one", up.layer(p), 9 - p);
+            DUE.is("21 the one ahead", down.layer(p), p);
+        }
+        DUE.is("23 the next one", up.breaks(123456789L), 0);
+        DUE.is("23 the one ahead", down.breaks(9876543210L), 0);
+        DUE.is("23 the next one, all", up.breaks(9876543210L), 9);
+        DUE.is("23 the one ahead, all", down.breaks(123456789L), 9);
+        DUE.is("23 one that needs part 0", down.breaks(9876543200L), 1);
     }
 
     private static void promise22() {
@@ -113,6 +133,12 @@ public final class LayersTest {
         x.guard(0);
         x.back();
         DUE.is("25 also behind back()", x.guarded(), 12);
+        RingUntie y = Due.withParts(3);
+        Due.body(y, 0, "call 2");
+        Due.body(y, 2, "call 0;call 1");
+        y.guard(1);
+        DUE.is("25 part 1 comes to the ring", Due.body(y, 1, "call 0"), GUARDED);
+        DUE.is("25 0, 2 was of it", y.guarded(), 10);
     }
 
     /** A new part was not there ahead, so rings with it alone are no matter of the guard. */

@@ -306,6 +306,11 @@ public final class ProgramTest {
         DUE.is("9 31 at work", x.run(0, 0), BIG);
         DUE.is("9 31 at work, from one less", x.run(1, 0), 2);
         DUE.is("9 30 at work", x.done(), 32);
+        x.add(2, 0);
+        x.hear(0, 1);
+        Due.body(x, 0, "news 0");
+        DUE.is("9 hearers are at work too", x.run(0, 0), BIG);
+        DUE.is("9 30 with none of them", x.run(1, 0), 2);
         RingUntie y = chain(3, "call");
         String ten = "call 1;call 1;call 1;call 1;call 1;call 1;call 1;call 1;call 1;call 1";
         String nine = "add 1;add 1;add 1;add 1;add 1;add 1;add 1;add 1;add 1";

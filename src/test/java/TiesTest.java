@@ -262,6 +262,10 @@ public final class TiesTest {
         RingUntie y = web(5, 01, 2, 12, 1, 20, 1, 13, 1, 34, 1, 40, 1);
         DUE.is("20 the longer one next", y.bound(), 2);
         DUE.is("20 the choice", y.choice(), 2);
+        // Here the last of the shortest rings ahead of the first one would make 7 of it.
+        RingUntie z = web(5, 02, 3, 03, 2, 12, 2, 23, 2, 24, 3, 30, 3, 31, 2, 32, 1, 40, 3);
+        DUE.is("20 the first of several", z.bound(), 6);
+        DUE.is("20 the first tie is the least", web(3, 01, 1, 12, 2, 20, 4).bound(), 1);
     }
 
     private static void pricesOfNothing() {
