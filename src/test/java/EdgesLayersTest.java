@@ -430,6 +430,11 @@ public final class EdgesLayersTest extends Edges {
         w.guard(1);
         is("a ring of all", body(w, 2, "call 0"), GUARDED);
         is("0, 2: 0, 1 would not be of one", w.guarded(), 2);
+        // 0, 2 and 2, 0 were of one; 1 comes in by 2, 1 and goes to 0 itself.
+        RingUntie u = web(3, 02, 20, 21);
+        u.guard(1);
+        is("1 comes in", body(u, 1, "call 0"), GUARDED);
+        is("1, 0", u.guarded(), 10);
         RingUntie v = web(3, 02, 01, 12);
         v.guard(1);
         is("a ring of all", body(v, 2, "call 0"), GUARDED);

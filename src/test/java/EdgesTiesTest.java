@@ -552,6 +552,36 @@ public final class EdgesTiesTest extends Edges {
         is("two cheap ones", y.choice(), 2);
     }
 
+    /** Nothing of an answer may be left for the next one, with fewer parts or other ties. */
+    static void p18_askedAgainBehindAChange() {
+        RingUntie x = web(3, 01, 12, 20, 20, 21);
+        is("three parts", x.choice(), 1);
+        is("melt", x.melt(0, 1), 2);
+        is("two parts", x.choice(), 1);
+        is("back()", x.back() >= 0 ? 1 : 0, 1);
+        is("three parts", x.choice(), 1);
+        body(x, 2, "");
+        is("no ring", x.choice(), 0);
+        x.melt(0, 2);
+        x.melt(0, 1);
+        is("one part", x.choice(), 0);
+        RingUntie y = web(10, 90, 98, 97, 9);
+        is("ten parts", y.choice(), 1);
+        y.melt(8, 9);
+        is("nine parts", y.choice(), 1);
+        y.melt(0, 8);
+        is("eight parts", y.choice(), 0);
+        y.back();
+        y.back();
+        is("ten parts again", y.choice(), 1);
+        y.price(0, 5);
+        is("dearer", y.choice(), 5);
+        y.allow(0, 9, 1);
+        is("allowed", y.choice(), 0);
+        y.day(1);
+        is("over", y.choice(), 5);
+    }
+
     static void p18_aQuestionChangesNothing() {
         refused("choice()", 3, Edges::busy, RingUntie::choice);
         refused("bound()", 3, () -> web(3, 01, 10, 02, 20, 12, 21), RingUntie::bound);
@@ -662,6 +692,23 @@ public final class EdgesTiesTest extends Edges {
         // A shorter one among later parts goes ahead of a longer one among the first.
         is("2, 3 first", web(4, 01, 12, 23, 32, 30).bound(), 1);
         is("and 2, 3 twice", web(4, 01, 12, 23, 23, 32, 30).bound(), 2);
+        // 0, 1 has a ring of three, 0, 2 one of two, which is taken; 1, 2 is left.
+        is("0, 2 ahead of 0, 1, 2", web(3, 01, 02, 12, 20, 21).bound(), 2);
+        // 0, 1 and 0, 2 are taken; with 0, 2, 1 ahead of them neither would be left.
+        is("0, 1 and 0, 2 ahead of 0, 2, 1", web(3, 01, 02, 10, 20, 21).bound(), 2);
+        // 0, 3, 2 is taken and 1, 4, 2 is left; with 1, 4, 2 first the other two would fall with it.
+        is("0, 3, 2 first", web(5, 03, 04, 14, 20, 21, 21, 32, 32, 42).bound(), 2);
+        // 0, 4, 2 is taken, and 1, 4, 3 is left; of 1, 4, 2 none would be.
+        is("0, 4, 2 first", web(5, 03, 04, 14, 20, 21, 31, 42, 43).bound(), 2);
+        // 0, 3, 2 is taken, and 1, 2, 4 is left; of 0, 3, 2, 4 and the like none would be.
+        is("0, 3, 2 first, then 1, 2, 4", web(5, 03, 03, 12, 20, 24, 32, 41, 43).bound(), 2);
+    }
+
+    static void p20_tiesThatAreOfNoRing() {
+        is("to 0, beside a ring", web(4, 20, 13, 31).bound(), 1);
+        is("from 0, beside a ring", web(4, 02, 13, 31).bound(), 1);
+        is("from one ring to the other", web(4, 01, 10, 23, 32, 12, 02).bound(), 2);
+        is("back", web(4, 01, 10, 23, 32, 21, 20).bound(), 2);
     }
 
     static void p20_allowedTiesAreNone() {

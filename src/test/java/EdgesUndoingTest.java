@@ -96,6 +96,23 @@ public final class EdgesUndoingTest extends Edges {
         is("1 to 2", chain.make().move(ROUTINE, 1, 2), 1);
     }
 
+    /** The part of s needs the face, wherever s goes; the face's part may need others by what was added. */
+    static void p26_guardedByAFace() {
+        Build build = () -> {
+            RingUntie x = web(2, 01);
+            x.face(0, 0);
+            x.part();
+            x.add(ROUTINE, 2);
+            x.add(ROUTINE, 3);
+            body(x, 3, "call 4");
+            x.guard(1);
+            return x;
+        };
+        guarded("s to what the face's part needs", 23, build, x -> x.move(ROUTINE, 1, 3));
+        is("s to the face's part", build.make().move(ROUTINE, 1, 2), 1);
+        is("s to r's part", build.make().move(ROUTINE, 1, 0), 1);
+    }
+
     static void p26_tiesGoWithIt() {
         RingUntie x = busy();
         is("routine 1 to 0", x.move(ROUTINE, 1, 0), 1);
@@ -372,6 +389,22 @@ public final class EdgesUndoingTest extends Edges {
             x.allow(0, 3, 6);
             return x;
         }, x -> x.melt(0, 2));
+    }
+
+    static void p28_guardedByWhatIsNotAllowedAnyMore() {
+        Build build = () -> {
+            RingUntie x = web(3, 12, 20);
+            x.allow(1, 2, 9);
+            x.guard(1);
+            return x;
+        };
+        guarded("1 into 0: what was allowed of 1 is not any more", 1, build, x -> x.melt(0, 1));
+        is("0 into 1: it is allowed still", build.make().melt(1, 0), 2);
+        guarded("1 into 0 on the day", 1, () -> {
+            RingUntie x = build.make();
+            x.day(9);
+            return x;
+        }, x -> x.melt(0, 1));
     }
 
     static void p28_facesMeltToo() {
@@ -778,7 +811,7 @@ public final class EdgesUndoingTest extends Edges {
     static void p32_againAndAgainAroundTheTwentieth() {
         RingUntie x = things(1, 0, 0);
         int number = 0;
-        for (int round = 0; round < 12; round++) {
+        for (int round = 0; round < 10; round++) {
             for (int i = 0; i < 11; i++) {
                 body(x, 0, "add " + ++number);
             }

@@ -4,6 +4,7 @@ import java.lang.reflect.Method;
 import java.lang.reflect.Modifier;
 import java.nio.file.Files;
 import java.nio.file.Path;
+import java.util.ArrayList;
 import java.util.List;
 import java.util.Set;
 import java.util.TreeSet;
@@ -13,6 +14,7 @@ import java.util.regex.Pattern;
 /** The public face, and those rules of LANGUAGE.md that can be seen in the text of the class. */
 public final class LanguageTest {
     private static final Due DUE = new Due();
+    private static final Path SOURCE = Path.of("src/main/java/RingUntie.java");
     private static final List<String> FACE = List.of(
         "part()", "add(int,int)", "where(int,int)", "feed(long,int)", "body(int)", "act(int,int,int)",
         "hear(int,int)", "run(int,int)", "done()", "price(int,int)", "tie(int,int,int)", "allow(int,int,int)",
@@ -25,6 +27,9 @@ public final class LanguageTest {
         fieldsAndConstructors();
         classesInside();
         wordsInTheText();
+        typesOfFields();
+        methodsInside();
+        lengthsOfMethods();
         DUE.end("LanguageTest");
     }
 
@@ -93,10 +98,72 @@ public final class LanguageTest {
         }
     }
 
+    private static List<Class<?>> allClasses() {
+        List<Class<?>> all = new ArrayList<>(List.of(RingUntie.class.getDeclaredClasses()));
+        all.add(RingUntie.class);
+        return all;
+    }
+
+    /** Rules 3, 5, 11: what fields may be, and how many a class has. */
+    private static void typesOfFields() {
+        Set<Class<?>> constants = Set.of(int.class, long.class, boolean.class, char.class, String.class,
+            int[].class, long[].class, char[].class, byte[].class);
+        for (Class<?> one : allClasses()) {
+            int fields = 0;
+            for (Field field : one.getDeclaredFields()) {
+                String name = one.getName() + "." + field.getName();
+                Class<?> type = field.getType();
+                Class<?> inner = type.isArray() ? type.getComponentType() : type;
+                if (Modifier.isStatic(field.getModifiers())) {
+                    DUE.holds(name + " is a constant", Modifier.isFinal(field.getModifiers()) && constants.contains(type));
+                } else {
+                    fields++;
+                    DUE.holds(name + " is of numbers or of an own class",
+                        inner.isPrimitive() || inner.getName().startsWith("RingUntie$"));
+                }
+            }
+            DUE.holds(one.getName() + " has some twenty fields at most", fields <= 20);
+        }
+    }
+
+    /** Rules 1, 6, 11 for the methods of the classes inside. */
+    private static void methodsInside() {
+        for (Class<?> one : RingUntie.class.getDeclaredClasses()) {
+            for (Method method : one.getDeclaredMethods()) {
+                String name = one.getName() + "." + head(method);
+                DUE.holds(name + " takes seven at most", method.getParameterCount() <= 7);
+                DUE.holds(name + " bears no name of the face",
+                    FACE.stream().noneMatch(f -> f.startsWith(method.getName() + "(")));
+                DUE.holds(name + " is none of every object's",
+                    !List.of("equals", "hashCode", "toString", "finalize").contains(method.getName()));
+            }
+        }
+    }
+
+    /** Rule 11: some sixty lines. A method begins at a line that ends in ") {" behind a type and a name. */
+    private static void lengthsOfMethods() throws Exception {
+        Pattern begin = Pattern.compile("( +)(?:[a-z]+ )*[A-Za-z\\[\\]]+ ?[a-zA-Z]*\\([^;]*\\) \\{");
+        List<String> lines = Files.readAllLines(SOURCE);
+        int found = 0;
+        for (int i = 0; i < lines.size(); i++) {
+            Matcher m = begin.matcher(lines.get(i));
+            if (m.matches() && !lines.get(i).matches(" *(if|for|while|switch|else|}).*")) {
+                int end = i;
+                while (!lines.get(end).equals(m.group(1) + "}")) {
+                    end++;
+                }
+                found++;
+                DUE.holds("sixty lines at most from line " + (i + 1), end - i < 60);
+            }
+        }
+        DUE.holds("methods are found: " + found, found > FACE.size());
+    }
+
     private static void wordsInTheText() throws Exception {
-        String text = Files.readString(Path.of("src/main/java/RingUntie.java"));
+        String text = Files.readString(SOURCE);
         String code = text.replaceAll("(?s)/\\*.*?\\*/", "").replaceAll("//[^\n]*", "")
             .replaceAll("\"[^\"\n]*\"", "\"\"").replaceAll("'[^'\n]'", "' '");
+        DUE.holds("no texts are joined by +", !Pattern.compile("\"\\s*\\+|\\+\\s*\"").matcher(code).find());
         for (String word : List.of("throw", "try", "catch", "synchronized", "assert", "import", "package", "var",
                 "throws", "finally", "volatile", "native", "transient", "Object", "yield")) {
             DUE.holds("no " + word, !Pattern.compile("\\b" + word + "\\b").matcher(code).find());
