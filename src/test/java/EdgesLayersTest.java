@@ -275,6 +275,35 @@ public final class EdgesLayersTest extends Edges {
         is("it comes again", body(x, 1, "call 0"), GUARDED);
     }
 
+    /** A ring beside it, of the lesser or of the greater parts, refuses no change of any kind. */
+    static void p24_aRingBesideTheChangeIsNoMatter() {
+        for (int low = 0; low < 5; low += 4) {
+            // Parts a, b make the ring; what is changed lies in c, d and beyond.
+            int a = low, b = low + 1, c = 4 - low, d = 5 - low;
+            Build build = () -> {
+                RingUntie x = web(6, 10 * a + b, 10 * b + a, 10 * c + d, 10 * c + d);
+                x.add(FIELD, c);
+                x.add(NEWS, d);
+                x.guard(1);
+                return x;
+            };
+            is("body", body(build.make(), d, "call " + d), 1);
+            is("hear", build.make().hear(0, c), 1);
+            is("move of a routine", build.make().move(ROUTINE, d, 2), d);
+            is("move of a field", build.make().move(FIELD, 0, 2), c);
+            is("move of a news", build.make().move(NEWS, 0, 3), d);
+            is("split", build.make().split(c, 1 << c), 6);
+            is("melt", build.make().melt(c, d), 5);
+            is("melt of others", build.make().melt(3, 2), 5);
+            is("turn", build.make().turn(c, 0), 1);
+            RingUntie x = build.make();
+            is("face", x.face(c, 0), 6);
+            is("pull", x.pull(6), 1);
+            is("groups()", x.groups(), 1);
+            is("guarded()", x.guarded(), NONE);
+        }
+    }
+
     /** One group of four where there were two of two: the pairs between them are new. */
     static void p24_twoGroupsBecomeOne() {
         RingUntie x = web(4, 01, 10, 23, 32, 12);

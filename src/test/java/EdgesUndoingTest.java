@@ -311,6 +311,26 @@ public final class EdgesUndoingTest extends Edges {
         }
     }
 
+    static void p28_allThatThereCanBe() {
+        int[] most = {20, 10, 8};
+        for (int q = 0; q < 10; q++) {
+            RingUntie x = parts(10);
+            for (int what = 0; what < 3; what++) {
+                for (int i = 0; i < most[what]; i++) {
+                    x.add(what, 9 - i % 10);
+                }
+            }
+            int p = 9 - q;
+            is("melt(" + p + ", " + q + ")", x.melt(p, q), 9);
+            for (int what = 0; what < 3; what++) {
+                for (int i = 0; i < most[what]; i++) {
+                    int home = 9 - i % 10 == q ? p : 9 - i % 10;
+                    is("where(" + what + ", " + i + ")", x.where(what, i), home > q ? home - 1 : home);
+                }
+            }
+        }
+    }
+
     static void p28_whatIsAllowedGoesWithThem() {
         for (int p = 0; p < 4; p++) {
             for (int q = 0; q < 4; q++) {
@@ -716,6 +736,24 @@ public final class EdgesUndoingTest extends Edges {
             is("of 1", x.act(r, 9, 1), 1);
         }
         is("its own is none any more", x.count(5), 190);
+    }
+
+    static void p31_actsThatWereDoNotCount() {
+        RingUntie x = things(18, 0, 0);
+        body(x, 0, "call 1");
+        is("face", x.face(0, 0), 18);
+        body(x, 2, "add 1;call 18;odd 18");
+        body(x, 2, "add 1");
+        body(x, 3, "call 18");
+        body(x, 3, "");
+        body(x, 17, times(10, "call 18"));
+        is("eleven are left", x.pull(18), 11);
+        is("of the shorter body", x.act(2, 0, 0), 0);
+        is("one act", x.act(2, 1, 0), NONE);
+        RingUntie z = things(19, 0, 0);
+        body(z, 18, times(10, "call 0"));
+        is("face", z.face(18, 9), 19);
+        is("the tenth act of the last but one", z.pull(19), 1);
     }
 
     static void p31_otherActsOfThatNumberStay() {
