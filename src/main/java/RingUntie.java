@@ -432,6 +432,7 @@ public final class RingUntie {
     /** Ends a change that was made on now: it is taken off again if the GUARD forbids it. */
     private int settle(int answer, int gone) {
         if (guardIsOn && isForbidden(gone)) {
+            guardedTie = firstNewRingTie(gone);
             Program refused = now;
             now = ahead;
             ahead = refused;
@@ -448,11 +449,7 @@ public final class RingUntie {
     private boolean isForbidden(int gone) {
         tiesAhead.readFrom(ahead, prices, today);
         ties.readFrom(now, prices, today);
-        if (!joinsParts(gone)) {
-            return false;
-        }
-        guardedTie = firstNewRingTie(gone);
-        return true;
+        return joinsParts(gone);
     }
 
     private boolean joinsParts(int gone) {

@@ -6,6 +6,7 @@ public final class EdgesLayersTest extends Edges {
 
     // ---- 21 layer
 
+    @Says("NONE;")
     static void p21_noSuchPart() {
         Build flat = () -> web(3, 01, 12);
         for (int p : new int[] {LEAST, -1, 3, 10, MOST}) {
@@ -19,6 +20,7 @@ public final class EdgesLayersTest extends Edges {
         is("an eleventh", parts(10).layer(10), NONE);
     }
 
+    @Says({"STATE: some GROUP has two.", "LAYER of a PART (if no GROUP has two):"})
     static void p21_someGroupHasTwo() {
         for (int p = 0; p < 4; p++) {
             int part = p;
@@ -31,6 +33,7 @@ public final class EdgesLayersTest extends Edges {
         is("no ring", x.layer(2), 1);
     }
 
+    @Says({"LAYER.", "0, if it NEEDS none;"})
     static void p21_from0To9() {
         RingUntie x = web(10, 98, 87, 76, 65, 54, 43, 32, 21, 10);
         for (int p = 0; p < 10; p++) {
@@ -46,6 +49,7 @@ public final class EdgesLayersTest extends Edges {
         is("a ring of ten", y.layer(9), STATE);
     }
 
+    @Says("else 1 more than the greatest of those that it NEEDS.")
     static void p21_theGreatestOfThoseItNeeds() {
         RingUntie x = web(6, 01, 05, 12, 15, 25, 34);
         int[] due = {3, 2, 1, 1, 0, 0};
@@ -66,6 +70,10 @@ public final class EdgesLayersTest extends Edges {
 
     // ---- 22 worth
 
+    @Says({
+        "WORTH.",
+        "BUILT AHEAD of a PART are all PARTS to which ways lead from it;",
+        "WORTH: how many pairs of PARTS there are of which neither is BUILT AHEAD of the other one."})
     static void p22_fromNoneToAll() {
         is("no part", new RingUntie().worth(), 0);
         for (int parts = 1; parts <= 10; parts++) {
@@ -88,6 +96,7 @@ public final class EdgesLayersTest extends Edges {
 
     // ---- 23 breaks
 
+    @Says("BAD: below 0,")
     static void p23_belowNought() {
         for (long layers : new long[] {Long.MIN_VALUE, -10000000000L, -10, -1}) {
             refused("breaks(" + layers + ")", BAD, Edges::busy, x -> x.breaks(layers));
@@ -96,6 +105,7 @@ public final class EdgesLayersTest extends Edges {
         }
     }
 
+    @Says("a digit of no PART.")
     static void p23_aDigitOfNoPart() {
         long most = 0;
         for (int parts = 0; parts <= 10; parts++) {
@@ -111,6 +121,9 @@ public final class EdgesLayersTest extends Edges {
         is("4294967296 of nine", parts(9).breaks(4294967296L), BAD);
     }
 
+    @Says({
+        "BREAKS of told layers (a digit 0 .. 9 for each PART): TIES p, q with p's digit not above q's.",
+        "layers, what they break,"})
     static void p23_notAboveIsBroken() {
         for (int d = 0; d < 10; d++) {
             for (int e = 0; e < 10; e++) {
@@ -122,6 +135,7 @@ public final class EdgesLayersTest extends Edges {
         is("twice if they are alike", web(2, 01, 10).breaks(11), 2);
     }
 
+    @Says("(digits, PART 0's the lowest).")
     static void p23_partNoughtsDigitIsTheLowest() {
         RingUntie x = web(10, 98, 87, 76, 65, 54, 43, 32, 21, 10);
         is("all as they should be", x.breaks(9876543210L), 0);
@@ -132,6 +146,7 @@ public final class EdgesLayersTest extends Edges {
         is("noughts ahead are digits too", x.breaks(0), 9);
     }
 
+    @Says("How many TIES BREAK told layers")
     static void p23_aTieOfManyActsIsOne() {
         RingUntie x = web(2, 01, 01, 01);
         is("three calls", x.breaks(0), 1);
@@ -149,6 +164,7 @@ public final class EdgesLayersTest extends Edges {
 
     // ---- 24 guard
 
+    @Says("The GUARD is on (1), off (0): what it was. BAD.")
     static void p24_onAndOffAlone() {
         for (int is : new int[] {LEAST, -1, 2, 3, MOST}) {
             refused("guard(" + is + "), off", BAD, Edges::busy, x -> x.guard(is));
@@ -224,6 +240,12 @@ public final class EdgesLayersTest extends Edges {
         }
     }
 
+    @Says({
+        "With the GUARD on, a change (body, hear, move, split, melt,",
+        "pull)",
+        "behind which two PARTS would be of one GROUP that are not so ahead of it",
+        "is refused: GUARDED,",
+        "changes that make a ring refused and told,"})
     static void p24_eachChangeOnAndOff() {
         String[] names = {"body", "hear", "move of a routine", "move of a field", "move of a news", "melt", "split",
             "pull"};
@@ -254,6 +276,7 @@ public final class EdgesLayersTest extends Edges {
         is("back()", x.back() >= 0 ? 1 : 0, 1);
     }
 
+    @Says("turn, face,")
     static void p24_turnsAndFacesAreTaken() {
         RingUntie x = web(2, 01, 10);
         x.guard(1);
@@ -334,6 +357,7 @@ public final class EdgesLayersTest extends Edges {
         is("the other tie allowed", body(x, 1, "call 0"), 1);
     }
 
+    @Says("(both being there)")
     static void p24_newPartsWereNotThere() {
         RingUntie x = parts(1);
         x.add(ROUTINE, 0);
@@ -346,6 +370,7 @@ public final class EdgesLayersTest extends Edges {
         is("guarded()", x.guarded(), NONE);
     }
 
+    @Says("(both being there)")
     static void p24_aMeltedPartIsNotThere() {
         RingUntie x = web(3, 01, 12);
         x.guard(1);
@@ -375,6 +400,7 @@ public final class EdgesLayersTest extends Edges {
 
     // ---- 25 guarded
 
+    @Says("NONE: none was.")
     static void p25_noneWas() {
         is("at first", new RingUntie().guarded(), NONE);
         RingUntie x = web(2, 01);
@@ -390,6 +416,7 @@ public final class EdgesLayersTest extends Edges {
         is("taken, as it is off", x.guarded(), NONE);
     }
 
+    @Says("The TIE that was told as a change was GUARDED, of the latest such one,")
     static void p25_theLatestOne() {
         RingUntie x = web(4, 01, 12, 23);
         x.guard(1);
@@ -423,6 +450,7 @@ public final class EdgesLayersTest extends Edges {
         is("behind a melt that changes numbers", x.guarded(), 12);
     }
 
+    @Says("as 10 p + q.")
     static void p25_from1To98() {
         RingUntie x = web(10, 89);
         x.guard(1);
@@ -438,6 +466,7 @@ public final class EdgesLayersTest extends Edges {
         is("of one group already", body(z, 8, "call 7;call 9"), 2);
     }
 
+    @Says({"and of the TIES p, q that there would be, of one GROUP, the first one", "or not of one GROUP, is told."})
     static void p25_theFirstByPThenQ() {
         // 3 calls 1: of one group are 1, 2, 3 then; 2, 3 and 3, 2 were so ahead.
         RingUntie x = web(4, 12, 23, 32);
@@ -471,6 +500,7 @@ public final class EdgesLayersTest extends Edges {
     }
 
     /** A tie that comes to be may be told, also one of two parts that were of one group already. */
+    @Says("that was none ahead of it,")
     static void p25_aTieThatWasNone() {
         RingUntie x = web(4, 12, 20, 01, 30);
         x.guard(1);
@@ -479,6 +509,7 @@ public final class EdgesLayersTest extends Edges {
         is("0, 2 was none, ahead of 0, 3", x.guarded(), 2);
     }
 
+    @Says("(by p, then q, as they would be numbered)")
     static void p25_asTheyWouldBeNumbered() {
         RingUntie x = web(5, 24, 43);
         x.guard(1);

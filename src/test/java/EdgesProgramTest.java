@@ -8,6 +8,7 @@ public final class EdgesProgramTest extends Edges {
 
     // ---- 1 a new object
 
+    @Says("Nothing is there;")
     static void p01_nothingIsThere() {
         for (int what = 0; what < 10; what++) {
             is("count(" + what + ")", new RingUntie().count(what), 0);
@@ -47,12 +48,14 @@ public final class EdgesProgramTest extends Edges {
         refused("back()", STATE, RingUntie::new, x -> x.back());
     }
 
+    @Says("the GUARD is off,")
     static void p01_theGuardIsOff() {
         is("guard(0)", new RingUntie().guard(0), 0);
         is("guard(1)", new RingUntie().guard(1), 0);
         is("a ring is made", web(2, 01, 10).groups(), 1);
     }
 
+    @Says("DAY 0.")
     static void p01_theDayIsNought() {
         RingUntie x = web(2, 01);
         is("count(8)", x.count(8), 0);
@@ -77,6 +80,7 @@ public final class EdgesProgramTest extends Edges {
         is("its own", y.count(9), 8);
     }
 
+    @Says("An object is used for at most 512 calls after it has been made; what later calls answer is free.")
     static void p01_all512CallsAnswer() {
         RingUntie x = new RingUntie();
         for (int call = 1; call < 512; call += 2) {
@@ -101,6 +105,7 @@ public final class EdgesProgramTest extends Edges {
 
     // ---- 2 part
 
+    @Says({"A PART more: its number. FULL.", "PARTS are numbered from 0 on, 10 at most."})
     static void p02_tenAreTakenTheEleventhIsFull() {
         RingUntie x = new RingUntie();
         for (int p = 0; p < 10; p++) {
@@ -165,6 +170,7 @@ public final class EdgesProgramTest extends Edges {
 
     // ---- 3 add
 
+    @Says("ROUTINES are numbered from 0 on, 20 at most,")
     static void p03_twentyRoutines() {
         RingUntie x = parts(1);
         for (int r = 0; r < 20; r++) {
@@ -176,6 +182,7 @@ public final class EdgesProgramTest extends Edges {
         is("a news has room", things(20, 9, 7).add(NEWS, 0), 7);
     }
 
+    @Says("FIELDS likewise, 10 at most,")
     static void p03_tenFields() {
         RingUntie x = parts(1);
         for (int f = 0; f < 10; f++) {
@@ -187,6 +194,7 @@ public final class EdgesProgramTest extends Edges {
         is("a news has room", things(19, 10, 7).add(NEWS, 0), 7);
     }
 
+    @Says("NEWS likewise, 8 at most:")
     static void p03_eightNews() {
         RingUntie x = parts(1);
         for (int n = 0; n < 8; n++) {
@@ -198,6 +206,7 @@ public final class EdgesProgramTest extends Edges {
         is("a field has room", things(19, 9, 8).add(FIELD, 0), 9);
     }
 
+    @Says({"A ROUTINE (what 0), FIELD (1), NEWS (2) more in a PART: its number.", "FULL."})
     static void p03_limitsAreOfAllPartsTogether() {
         RingUntie x = parts(10);
         int[] most = {20, 10, 8};
@@ -211,6 +220,7 @@ public final class EdgesProgramTest extends Edges {
         }
     }
 
+    @Says("NONE;")
     static void p03_noSuchWhat() {
         for (int what : new int[] {LEAST, -2, -1, 3, 4, MOST}) {
             refused("add(" + what + ", 0)", NONE, Edges::busy, x -> x.add(what, 0));
@@ -219,6 +229,7 @@ public final class EdgesProgramTest extends Edges {
         is("what 2", busy().add(2, 0), 1);
     }
 
+    @Says({"NONE;", "NONE there is no such PART,"})
     static void p03_noSuchPart() {
         for (int what = 0; what < 3; what++) {
             int w = what;
@@ -268,6 +279,7 @@ public final class EdgesProgramTest extends Edges {
         is("one more", x.add(ROUTINE, 0), FULL);
     }
 
+    @Says("(none at first).")
     static void p03_aRoutineHasNoBodyAtFirst() {
         RingUntie x = busy();
         int r = x.add(ROUTINE, 1);
@@ -306,6 +318,7 @@ public final class EdgesProgramTest extends Edges {
         is("a new news has no hearers", x.hear(0, 0), 1);
     }
 
+    @Says("TAKEN BACK: the latest change (part, add,")
     static void p03_takenBack() {
         for (int what = 0; what < 3; what++) {
             int w = what;
@@ -315,6 +328,7 @@ public final class EdgesProgramTest extends Edges {
 
     // ---- 4 where
 
+    @Says({"The PART in which it lies.", "each lies in a PART."})
     static void p04_lastOnesAndBeyond() {
         RingUntie x = parts(10);
         int[] most = {20, 10, 8};
@@ -333,6 +347,7 @@ public final class EdgesProgramTest extends Edges {
         }
     }
 
+    @Says({"NONE.", "no such PART, ROUTINE, FIELD, NEWS,"})
     static void p04_noSuchWhatOrNumber() {
         for (int what : new int[] {LEAST, -1, 3, MOST}) {
             refused("where(" + what + ", 0)", NONE, Edges::busy, x -> x.where(what, 0));
@@ -353,6 +368,7 @@ public final class EdgesProgramTest extends Edges {
 
     // ---- 5 feed
 
+    @Says({"how many it has.", "BAD: n not 1 .. 8;"})
     static void p05_oneToEightBytes() {
         for (int n : new int[] {LEAST, -8, -1, 0, 9, 10, 16, 120, MOST}) {
             refused("feed(.., " + n + ")", BAD, Edges::busy, x -> x.feed(0x6164642031L, n));
@@ -363,6 +379,7 @@ public final class EdgesProgramTest extends Edges {
     }
 
     /** Each byte of eight is known by the fault or by the number that is read. */
+    @Says("The n lowest bytes of w, the highest first, come behind THE TAPE's:")
     static void p05_theLowestBytesTheHighestFirst() {
         for (int n = 1; n <= 8; n++) {
             RingUntie x = things(1, 0, 0);
@@ -401,6 +418,7 @@ public final class EdgesProgramTest extends Edges {
         return x;
     }
 
+    @Says({"FULL.", "A BODY is read from THE TAPE (bytes, 120 at most):"})
     static void p05_120BytesOnTheTape() {
         for (int n = 1; n <= 8; n++) {
             int k = n;
@@ -418,6 +436,7 @@ public final class EdgesProgramTest extends Edges {
         is("count(9)", x.count(9), 120);
     }
 
+    @Says("REFUSALS, of several the first one told:")
     static void p05_badIsToldAheadOfFull() {
         for (int n : new int[] {LEAST, 0, 9, MOST}) {
             refused("feed(0, " + n + ")", BAD, () -> withBytes(120), x -> x.feed(0, n));
@@ -487,18 +506,24 @@ public final class EdgesProgramTest extends Edges {
         }
     }
 
+    @Says({
+        "THE TAPE, which is empty then, is the BODY of a ROUTINE: how many ACTS;",
+        "ACT: one of the words add mul put get call odd news, a blank, a number"})
     static void p06_eachByteOfTheFirstAct() {
         p06Act("", 0, ";");
     }
 
+    @Says("ACT;ACT;..")
     static void p06_eachByteOfASecondAct() {
         p06Act("news 7;", 1, ";");
     }
 
+    @Says("(the end of THE TAPE, if it ends too early;")
     static void p06_eachByteOfTheTenthAct() {
         p06Act(times(9, "odd 1") + ";", 9, "");
     }
 
+    @Says({"-10 less the FAULT.", "The FAULT is the place of the first byte with which none begins so"})
     static void p06_theFaultIsThePlaceOfTheFirst() {
         RingUntie x = reader();
         is("two faults", body(x, 0, "add 1;xx;yy"), -16);
@@ -516,6 +541,7 @@ public final class EdgesProgramTest extends Edges {
         is("a word that goes on", body(x, 0, "calls 1"), -14);
     }
 
+    @Says("a number of 1 to 3 digits.")
     static void p06_oneToThreeDigits() {
         RingUntie x = reader();
         is("none", body(x, 0, "add "), -14);
@@ -533,6 +559,7 @@ public final class EdgesProgramTest extends Edges {
         is("its number", x.act(0, 0, 1), 9);
     }
 
+    @Says({"behind 10 ACTS a ; ).", "A ROUTINE has a BODY: ACTS, 10 at most,"})
     static void p06_tenActs() {
         for (int acts = 1; acts <= 10; acts++) {
             is(acts + " acts", body(reader(), 0, times(acts, "add 1")), acts);
@@ -553,6 +580,7 @@ public final class EdgesProgramTest extends Edges {
         is("only blanks", body(x, 0, " ".repeat(120)), -10);
     }
 
+    @Says("(or nothing at all);")
     static void p06_nothingAtAll() {
         RingUntie x = reader();
         body(x, 0, times(10, "add 1"));
@@ -575,6 +603,7 @@ public final class EdgesProgramTest extends Edges {
 
     // ---- 6 body: refusals
 
+    @Says("BAD: an ACT tells of what is not there;")
     static void p06_whatActsTellOf() {
         String[] told = {"call", "odd", "put", "get", "news"};
         int[] last = {4, 4, 0, 0, 0};
@@ -608,6 +637,7 @@ public final class EdgesProgramTest extends Edges {
         }
     }
 
+    @Says("An ACT may tell of a ROUTINE, FIELD, NEWS that is not there (yet): a BODY with such is refused.")
     static void p06_notThereYet() {
         RingUntie x = parts(1);
         x.add(ROUTINE, 0);
@@ -622,6 +652,7 @@ public final class EdgesProgramTest extends Edges {
         is("itself", body(x, 0, "call 0;odd 0"), 2);
     }
 
+    @Says("NONE;")
     static void p06_noSuchRoutineLeavesTheTape() {
         for (int r : new int[] {LEAST, -1, 5, 20, MOST}) {
             refused("body(" + r + ")", NONE, Edges::busy, x -> x.body(r));
@@ -633,6 +664,7 @@ public final class EdgesProgramTest extends Edges {
         is("then it is read", x.body(0), 1);
     }
 
+    @Says({"STATE: it is a FACE ROUTINE;", "(THE TAPE is empty then, but for NONE, STATE.)"})
     static void p06_aFaceRoutineLeavesTheTape() {
         refused("a fault", STATE, Edges::busy, x -> x.body(4));
         refused("nothing at all", STATE, Edges::quiet, x -> x.body(4));
@@ -665,6 +697,7 @@ public final class EdgesProgramTest extends Edges {
         }
     }
 
+    @Says("(THE TAPE is empty then,")
     static void p06_whichIsTold() {
         refused("no routine, a fault", NONE, () -> fed("x"), x -> x.body(5));
         refused("no routine, what is not there", NONE, () -> fed("call 9"), x -> x.body(5));
@@ -680,6 +713,7 @@ public final class EdgesProgramTest extends Edges {
         guardedBody("guarded", 1, ring, x -> body(x, 1, "call 0"));
     }
 
+    @Says("GUARDED.")
     static void p06_guardedOnBothSides() {
         Build chain = () -> {
             RingUntie x = web(3, 01, 12);
@@ -709,6 +743,7 @@ public final class EdgesProgramTest extends Edges {
         is("off", body(x, 2, "call 0"), 1);
     }
 
+    @Says("the latest change (part, add, body,")
     static void p06_takenBack() {
         takenBack("body", 2, Edges::quiet, x -> body(x, 0, "add 1;call 4"));
         takenBack("the same body", 3, Edges::quiet, x -> body(x, 1, "put 0;odd 4;add 1"));
@@ -718,6 +753,9 @@ public final class EdgesProgramTest extends Edges {
 
     // ---- 7 act
 
+    @Says({
+        "Of ACT i of a ROUTINE what 0: 0 add, 1 mul, 2 put, 3 get, 4 call, 5 odd, 6 news; 1 its number.",
+        "one behind the other"})
     static void p07_eachOfTen() {
         RingUntie x = reader();
         body(x, 9, "add 999;mul 0;put 9;get 8;call 7;odd 6;news 5;add 1;mul 2;put 3");
@@ -733,6 +771,7 @@ public final class EdgesProgramTest extends Edges {
         }
     }
 
+    @Says({"NONE.", "ACT, what, i;"})
     static void p07_noSuchRoutineActWhat() {
         for (int r : new int[] {LEAST, -1, 5, 20, MOST}) {
             refused("act(" + r + ", 0, 0)", NONE, Edges::busy, x -> x.act(r, 0, 0));
@@ -764,6 +803,10 @@ public final class EdgesProgramTest extends Edges {
         return x;
     }
 
+    @Says({
+        "A ROUTINE is a HEARER more of a NEWS: how many it has.",
+        "FULL;",
+        "A NEWS has HEARERS: ROUTINES, 6 at most,"})
     static void p08_sixAreTakenTheSeventhIsFull() {
         for (int n = 0; n < 6; n++) {
             is("hearer " + n, heard(n).hear(7, 0), n + 1);
@@ -773,6 +816,7 @@ public final class EdgesProgramTest extends Edges {
         is("for the same routine too", heard(6).hear(6, 19), 1);
     }
 
+    @Says({"STATE: it is one;", "none twice."})
     static void p08_noneTwice() {
         for (int hearers = 1; hearers <= 6; hearers++) {
             int n = hearers;
@@ -781,6 +825,7 @@ public final class EdgesProgramTest extends Edges {
         }
     }
 
+    @Says("NONE;")
     static void p08_noSuchNewsOrRoutine() {
         for (int n : new int[] {LEAST, -1, 1, 8, MOST}) {
             refused("hear(" + n + ", 0)", NONE, Edges::busy, x -> x.hear(n, 0));
@@ -793,6 +838,7 @@ public final class EdgesProgramTest extends Edges {
         is("one news beyond", heard(0).hear(8, 19), NONE);
     }
 
+    @Says("it is a FACE ROUTINE;")
     static void p08_aFaceRoutineHearsNothing() {
         refused("hear(0, 4)", STATE, Edges::busy, x -> x.hear(0, 4));
         RingUntie x = busy();
@@ -802,6 +848,7 @@ public final class EdgesProgramTest extends Edges {
         is("who it stands for may", y.hear(0, 3), 2);
     }
 
+    @Says({"GUARDED.", "STATE as told; FULL; then GUARDED."})
     static void p08_whichIsTold() {
         Build full = () -> {
             RingUntie x = things(9, 0, 1);
@@ -842,6 +889,7 @@ public final class EdgesProgramTest extends Edges {
         }, x -> x.hear(0, 2));
     }
 
+    @Says({"in their order, none twice.", "news N: all HEARERS of NEWS N are run, in their order."})
     static void p08_inTheirOrder() {
         int[][] orders = {{1, 2, 3}, {3, 2, 1}, {2, 3, 1}};
         int[] ends = {(5 + 1) * 2 * 3 % 9973, 5 * 3 * 2 + 1, 5 * 2 * 3 + 1};
@@ -866,6 +914,7 @@ public final class EdgesProgramTest extends Edges {
         is("acts", x.done(), 13);
     }
 
+    @Says("the latest change (part, add, body, hear,")
     static void p08_takenBack() {
         takenBack("hear", 2, Edges::busy, x -> x.hear(0, 0));
         takenBack("the sixth", 6, () -> {
@@ -885,6 +934,7 @@ public final class EdgesProgramTest extends Edges {
         return x.run(0, a);
     }
 
+    @Says({"RUN with A (0 .. 9972).", "BAD;", "What they do with A, a number 0 .. 9972:"})
     static void p09_aFrom0To9972() {
         for (int a : new int[] {LEAST, -9973, -1, 9973, 9974, 19946, MOST}) {
             refused("run(0, " + a + ")", BAD, Edges::busy, x -> x.run(0, a));
@@ -893,6 +943,7 @@ public final class EdgesProgramTest extends Edges {
         is("9972", end("", 9972), 9972);
     }
 
+    @Says("NONE;")
     static void p09_noSuchRoutine() {
         for (int r : new int[] {LEAST, -1, 5, 20, MOST}) {
             refused("run(" + r + ", 0)", NONE, Edges::busy, x -> x.run(r, 0));
@@ -902,6 +953,7 @@ public final class EdgesProgramTest extends Edges {
         is("the last", things(20, 0, 0).run(19, 5), 5);
     }
 
+    @Says("add N: A becomes (A + N) modulo 9973;")
     static void p09_addWrapsAround() {
         is("up to 9972", end("add 999", 8973), 9972);
         is("to 0", end("add 999", 8974), 0);
@@ -911,6 +963,7 @@ public final class EdgesProgramTest extends Edges {
         is("one", end("add 1", 9972), 0);
     }
 
+    @Says("mul N: (A N) modulo 9973;")
     static void p09_mulWrapsAround() {
         is("below", end("mul 2", 4986), 9972);
         is("over", end("mul 2", 4987), 1);
@@ -929,6 +982,7 @@ public final class EdgesProgramTest extends Edges {
         return (int) sum;
     }
 
+    @Says("put N: FIELD N becomes A; get N: A becomes (A + FIELD N) modulo 9973;")
     static void p09_getWrapsAround() {
         is("below", end("put 0;add 1;get 0", 4985), 9971);
         is("to 0", end("put 0;add 1;get 0", 4986), 0);
@@ -938,6 +992,7 @@ public final class EdgesProgramTest extends Edges {
         is("one that was not put", end("put 0;get 1", 7), 7);
     }
 
+    @Says("odd N: it is run if A is odd;")
     static void p09_oddAndEven() {
         for (int a : new int[] {0, 2, 9970, 9972}) {
             RingUntie x = things(2, 0, 0);
@@ -961,6 +1016,7 @@ public final class EdgesProgramTest extends Edges {
         is("acts", x.done(), 2);
     }
 
+    @Says("A RUN of a ROUTINE with A (all FIELDS 0 ahead of it):")
     static void p09_fieldsAre0AheadOfEach() {
         RingUntie x = things(1, 10, 0);
         body(x, 0, "get 9;get 0;add 3;put 9;put 0");
@@ -980,6 +1036,7 @@ public final class EdgesProgramTest extends Edges {
         is("acts", x.done(), 1);
     }
 
+    @Says({"call N: ROUTINE N is run;", "what A is at its end.", "routines as texts that are read and run,"})
     static void p09_theCallerGoesOnBehindACall() {
         RingUntie x = things(3, 2, 1);
         body(x, 0, "add 1;call 1;add 1;odd 1;news 0;get 1");
@@ -999,6 +1056,7 @@ public final class EdgesProgramTest extends Edges {
         return x;
     }
 
+    @Says({"BIG.", "It is BIG if it does more than 400 ACTS,"})
     static void p09_400ActsAreTakenThe401stIsBig() {
         RingUntie x = acts400();
         is("400", x.run(0, 0), 360);
@@ -1064,6 +1122,7 @@ public final class EdgesProgramTest extends Edges {
         return x;
     }
 
+    @Says("or more than 30 ROUTINES")
     static void p09_30AtWorkAreTakenThe31stIsBig() {
         // From 0: 20 at work; then, A being odd, those from the turn on once more.
         RingUntie x = loop("call", 10);
@@ -1091,6 +1150,7 @@ public final class EdgesProgramTest extends Edges {
         }
     }
 
+    @Says("(HEARERS) are at work at once.")
     static void p09_hearersAtWork() {
         RingUntie x = things(20, 0, 8);
         for (int r = 0; r < 7; r++) {
@@ -1111,6 +1171,7 @@ public final class EdgesProgramTest extends Edges {
         is("for ever by a hearer", x.run(0, 0), BIG);
     }
 
+    @Says("at work at once.")
     static void p09_oneBehindTheOtherIsNotAtOnce() {
         RingUntie x = things(20, 0, 1);
         for (int r = 0; r < 14; r++) {
@@ -1173,6 +1234,7 @@ public final class EdgesProgramTest extends Edges {
         is("ahead of a run", x.done(), 0);
     }
 
+    @Says("How many ACTS the latest run() that was not refused did.")
     static void p10_refusedRunsDoNotCount() {
         RingUntie x = things(3, 0, 0);
         body(x, 0, "add 1;add 1;add 1");

@@ -6,12 +6,14 @@ public final class EdgesTiesTest extends Edges {
 
     // ---- 11 price
 
+    @Says("1 each at first).")
     static void p11_oneEachAtFirst() {
         for (int sort = 0; sort < 4; sort++) {
             is("price(" + sort + ", 7)", new RingUntie().price(sort, 7), 1);
         }
     }
 
+    @Says({"what it was.", "BAD.", "(told for CALL, FIELD, NEWS, FACE, 0 .. 99;", "BAD a number is not as told;"})
     static void p11_from0To99() {
         for (int sort = 0; sort < 4; sort++) {
             int s = sort;
@@ -25,6 +27,7 @@ public final class EdgesTiesTest extends Edges {
         }
     }
 
+    @Says("NONE;")
     static void p11_noSuchSort() {
         for (int sort : new int[] {LEAST, -1, 4, 5, MOST}) {
             refused("price(" + sort + ", 5)", NONE, Edges::busy, x -> x.price(sort, 5));
@@ -54,6 +57,7 @@ public final class EdgesTiesTest extends Edges {
 
     // ---- 12 tie
 
+    @Says("NONE (p is q, too).")
     static void p12_noSuchPair() {
         for (int p : new int[] {LEAST, -1, 4, 10, MOST}) {
             for (int what = 0; what < 2; what++) {
@@ -71,12 +75,20 @@ public final class EdgesTiesTest extends Edges {
         is("a part beyond", parts(10).tie(9, 10, 0), NONE);
     }
 
+    @Says("NONE (p is q, too).")
     static void p12_noSuchWhat() {
         for (int what : new int[] {LEAST, -1, 2, MOST}) {
             refused("tie(0, 1, " + what + ")", NONE, Edges::busy, x -> x.tie(0, 1, what));
         }
     }
 
+    @Says({
+        "PART p NEEDS PART q,",
+        "by each ACT call, odd of its ROUTINES that tells of a ROUTINE of q (CALL),",
+        "by each put, get that tells of a FIELD of q (FIELD),",
+        "by each news that tells of a NEWS of q, and by each HEARER of p of a NEWS of q (NEWS);",
+        "0: none).",
+        "ties with their prices,"})
     static void p12_eachSortByItself() {
         String[] texts = {"call 1", "odd 1", "put 0", "get 0", "news 0"};
         int[] sorts = {0, 0, 1, 1, 2};
@@ -109,6 +121,7 @@ public final class EdgesTiesTest extends Edges {
         return x;
     }
 
+    @Says("TIES: PART p NEEDS PART q, unlike,")
     static void p12_onePartIsNoTie() {
         RingUntie x = things(2, 1, 1);
         x.part();
@@ -119,6 +132,10 @@ public final class EdgesTiesTest extends Edges {
         is("tie(1, 0, 0)", x.tie(1, 0, 0), 0);
     }
 
+    @Says({
+        "by a FACE: see 4.",
+        "by it the FACE does not NEED the PART of s, but that of s NEEDS the FACE (FACE), if they are unlike;",
+        "r's PART NEEDS the FACE as ever (CALL)."})
     static void p12_facesOnBothSides() {
         RingUntie x = web(2, 01);
         x.price(3, 50);
@@ -205,6 +222,7 @@ public final class EdgesTiesTest extends Edges {
 
     // ---- 13 allow
 
+    @Says({"what was told before (0 at first;", "till a day (0 .. 999;", "BAD."})
     static void p13_daysFrom0To999() {
         for (int day : new int[] {LEAST, -1, 1000, 1001, MOST}) {
             refused("allow(0, 1, " + day + ")", BAD, Edges::busy, x -> x.allow(0, 1, day));
@@ -217,6 +235,7 @@ public final class EdgesTiesTest extends Edges {
         is("it was 0", x.allow(0, 1, 0), 0);
     }
 
+    @Says("NONE (p is q, too);")
     static void p13_noSuchPair() {
         for (int p : new int[] {LEAST, -1, 4, 10, MOST}) {
             for (int day : new int[] {-1, 0, 5, 1000}) {
@@ -231,6 +250,7 @@ public final class EdgesTiesTest extends Edges {
         is("a part beyond", parts(10).allow(8, 10, 5), NONE);
     }
 
+    @Says("(0 at first;")
     static void p13_each0AtFirst() {
         RingUntie x = parts(10);
         for (int p = 0; p < 10; p++) {
@@ -245,6 +265,7 @@ public final class EdgesTiesTest extends Edges {
         }
     }
 
+    @Says({"it is over as soon as DAY is that):", "as it was told, also if that is over)."})
     static void p13_overAsSoonAsDayIsThat() {
         for (int till : new int[] {1, 2, 500, 998, 999}) {
             RingUntie x = web(2, 01);
@@ -269,6 +290,7 @@ public final class EdgesTiesTest extends Edges {
         is("it is over", x.tie(0, 1, 0), 1);
     }
 
+    @Says("A TIE (also one that is none yet) is ALLOWED")
     static void p13_aTieThatIsNoneYet() {
         RingUntie x = Due.withParts(2);
         x.allow(0, 1, 3);
@@ -288,6 +310,7 @@ public final class EdgesTiesTest extends Edges {
     }
 
     /** All that sections 2 and 3 say of ties, the day ahead and on the day. */
+    @Says("(A TIE that is ALLOWED counts for nothing here, in 2 and 3, till its DAY is over.)")
     static void p13_countsForNothingTillThen() {
         int[] days = {4, 5};
         int[][] due = {
@@ -336,6 +359,7 @@ public final class EdgesTiesTest extends Edges {
 
     // ---- 14 day
 
+    @Says("DAY becomes d, not less than it was: what it was.")
     static void p14_notLessThanItWas() {
         for (int d : new int[] {LEAST, -1, 0, 1, 1000, 1001, MOST}) {
             refused("day(" + d + ")", BAD, Edges::busy, x -> x.day(d));
@@ -347,6 +371,7 @@ public final class EdgesTiesTest extends Edges {
         is("count(8)", x.count(8), 3);
     }
 
+    @Says("BAD (0 .. 999).")
     static void p14_from0To999() {
         RingUntie x = new RingUntie();
         is("-1", x.day(-1), BAD);
@@ -379,6 +404,7 @@ public final class EdgesTiesTest extends Edges {
 
     // ---- 15 group
 
+    @Says("NONE.")
     static void p15_noSuchPart() {
         for (int p : new int[] {LEAST, -1, 4, 10, MOST}) {
             refused("group(" + p + ")", NONE, Edges::busy, x -> x.group(p));
@@ -387,6 +413,8 @@ public final class EdgesTiesTest extends Edges {
         is("beyond", parts(10).group(10), NONE);
     }
 
+    @Says("GROUPS: two PARTS are of one, if they are the same, or there are ways by TIES from each to the other "
+        + "one.")
     static void p15_oneWayIsNoGroup() {
         RingUntie x = web(3, 01, 12, 02);
         for (int p = 0; p < 3; p++) {
@@ -409,6 +437,7 @@ public final class EdgesTiesTest extends Edges {
         }
     }
 
+    @Says("The least PART of the GROUP of a PART.")
     static void p15_theLeastIsNotAlways0() {
         RingUntie x = web(10, 98, 89, 97, 79, 10, 12);
         int[] due = {0, 1, 2, 3, 4, 5, 6, 7, 7, 7};
@@ -424,6 +453,7 @@ public final class EdgesTiesTest extends Edges {
 
     // ---- 16 groups
 
+    @Says({"How many GROUPS have two PARTS or more.", "Parts of a program that need one another in rings:"})
     static void p16_noneOneAndFive() {
         is("no part", new RingUntie().groups(), 0);
         is("one part", things(1, 0, 0).groups(), 0);
@@ -439,6 +469,7 @@ public final class EdgesTiesTest extends Edges {
 
     // ---- 17 ring
 
+    @Says("not of one GROUP, i.")
     static void p17_noSuchPartWhatI() {
         for (int p : new int[] {LEAST, -1, 4, 10, MOST}) {
             refused("ring(" + p + ", 1, 0, 0)", NONE, Edges::busy, x -> x.ring(p, 1, 0, 0));
@@ -456,6 +487,7 @@ public final class EdgesTiesTest extends Edges {
         refused("the last", 2, Edges::busy, x -> x.ring(1, 2, 1, 1));
     }
 
+    @Says({"NONE: no TIE, not of one GROUP,", "A RING is told by a TIE p, q of one GROUP:"})
     static void p17_noTieOrNotOfOneGroup() {
         RingUntie x = web(4, 01, 12, 20, 13);
         is("a tie of the group", x.ring(0, 1, 0, 0), 3);
@@ -478,6 +510,9 @@ public final class EdgesTiesTest extends Edges {
         is(name + ": ahead of the first", x.ring(p, q, 1, -1), NONE);
     }
 
+    @Says({
+        "How many PARTS the LEAST RING of a TIE has (what 0), PART i of it, from p on (what 1).",
+        "groups and least rings,"})
     static void p17_fromTwoPartsToTen() {
         row("two", web(2, 01, 10), 0, 1, 0, 1);
         row("two, from the other one", web(2, 01, 10), 1, 0, 1, 0);
@@ -487,6 +522,9 @@ public final class EdgesTiesTest extends Edges {
         row("ten, from 5 on", ten, 5, 6, 5, 6, 7, 8, 9, 0, 1, 2, 3, 4);
     }
 
+    @Says({
+        "the LEAST RING: p, q, and the fewest PARTS by which one comes from q back to p,",
+        "of several such rows the one with the lesser PART at the first place at which they differ."})
     static void p17_theFewestThenTheLesser() {
         // From 1 back to 0: over 2 and 5, over 3 and 4, or over 6, 7 and 8.
         RingUntie x = web(9, 01, 13, 34, 40, 12, 25, 50, 16, 67, 78, 80);
@@ -542,6 +580,10 @@ public final class EdgesTiesTest extends Edges {
         is("chosen still", x.chosen(1, 44), 98);
     }
 
+    @Says({
+        "What CHOSEN TIES cost together.",
+        "CHOICE: an order of all PARTS such that PRICES of TIES which go from a PART to one that is ahead of "
+            + "it are together least,"})
     static void p18_theLeastTogether() {
         is("one of a ring", web(3, 01, 01, 12, 20, 20).choice(), 1);
         is("one that two rings share", web(4, 01, 12, 20, 13, 30).choice(), 1);
@@ -590,6 +632,7 @@ public final class EdgesTiesTest extends Edges {
 
     // ---- 19 chosen
 
+    @Says("NONE.")
     static void p19_noSuchWhatOrI() {
         for (int what : new int[] {LEAST, -1, 2, MOST}) {
             refused("chosen(" + what + ", 0)", NONE, Edges::busy, x -> x.chosen(what, 0));
@@ -626,6 +669,9 @@ public final class EdgesTiesTest extends Edges {
         ties("no ring", x);
     }
 
+    @Says({
+        "The i-th PART of the order (what 0);",
+        "of several the order with the lesser PART at the first place at which they differ;"})
     static void p19_theLesserAtTheFirstPlace() {
         order("no ties", parts(3), 0, 1, 2);
         order("one part", parts(1), 0);
@@ -638,6 +684,7 @@ public final class EdgesTiesTest extends Edges {
         ties("a ring the other way", other, 10);
     }
 
+    @Says({"the i-th of CHOSEN TIES (by p, then q), as 10 p + q (what 1).", "CHOSEN are these TIES."})
     static void p19_tiesByPThenQ() {
         RingUntie x = web(4, 01, 10, 02, 20, 12, 21, 03, 30);
         order("pairs", x, 0, 1, 2, 3);
@@ -675,6 +722,10 @@ public final class EdgesTiesTest extends Edges {
         is("a ring for nothing", x.bound(), 0);
     }
 
+    @Says({
+        "BOUND.",
+        "the least PRICE of a TIE in this RING is taken off all its TIES' PRICES, and added to BOUND",
+        "(a TIE whose PRICE is 0 is none any more);"})
     static void p20_theLeastIsTakenOffAll() {
         is("one and two", web(2, 01, 10, 10).bound(), 1);
         is("two and two", web(2, 01, 01, 10, 10).bound(), 2);
@@ -684,6 +735,8 @@ public final class EdgesTiesTest extends Edges {
     }
 
     /** Of two rings of one length the one of the first tie is taken: what is left depends on it. */
+    @Says("BOUND: again and again: of all TIES (by p, then q) of one GROUP the one with the shortest LEAST "
+        + "RING, the first of several;")
     static void p20_theFirstOfTheShortest() {
         // 0, 1, 2 is taken first; then 0, 1, 3 has nothing of 0, 1 left.
         is("one of two", web(4, 01, 12, 20, 13, 30).bound(), 1);
@@ -704,6 +757,7 @@ public final class EdgesTiesTest extends Edges {
         is("0, 3, 2 first, then 1, 2, 4", web(5, 03, 03, 12, 20, 24, 32, 41, 43).bound(), 2);
     }
 
+    @Says("till no GROUP of two is left.")
     static void p20_tiesThatAreOfNoRing() {
         is("to 0, beside a ring", web(4, 20, 13, 31).bound(), 1);
         is("from 0, beside a ring", web(4, 02, 13, 31).bound(), 1);

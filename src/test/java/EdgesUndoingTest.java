@@ -6,6 +6,7 @@ public final class EdgesUndoingTest extends Edges {
 
     // ---- 26 move
 
+    @Says("NONE;")
     static void p26_noSuchWhatNumberPart() {
         for (int what : new int[] {LEAST, -1, 3, MOST}) {
             refused("move(" + what + ", 0, 1)", NONE, Edges::busy, x -> x.move(what, 0, 1));
@@ -22,6 +23,9 @@ public final class EdgesUndoingTest extends Edges {
         }
     }
 
+    @Says({
+        "MOVE of a ROUTINE, FIELD, NEWS (what as in add()): where it lay.",
+        "MOVE: a ROUTINE, FIELD, NEWS goes to another PART."})
     static void p26_theLastOfEach() {
         RingUntie x = parts(10);
         int[] most = {20, 10, 8};
@@ -38,6 +42,7 @@ public final class EdgesUndoingTest extends Edges {
         }
     }
 
+    @Says("STATE: it lies there;")
     static void p26_itLiesThere() {
         refused("routine", STATE, Edges::busy, x -> x.move(ROUTINE, 1, 1));
         refused("field", STATE, Edges::busy, x -> x.move(FIELD, 0, 2));
@@ -48,6 +53,7 @@ public final class EdgesUndoingTest extends Edges {
         is("and back", x.move(NEWS, 0, 1), 0);
     }
 
+    @Says("a FACE ROUTINE;")
     static void p26_aFaceRoutineStays() {
         for (int part = 0; part < 4; part++) {
             int p = part;
@@ -83,6 +89,7 @@ public final class EdgesUndoingTest extends Edges {
         refused("it lies there, on guard", STATE, ring, x -> x.move(ROUTINE, 0, 0));
     }
 
+    @Says("GUARDED.")
     static void p26_guardedOnBothSides() {
         Build chain = () -> {
             RingUntie x = web(3, 01, 12);
@@ -123,6 +130,7 @@ public final class EdgesUndoingTest extends Edges {
         is("the hearer of its old part's news", x.tie(2, 1, 0), 1);
     }
 
+    @Says("and all that is told in 4,")
     static void p26_takenBack() {
         takenBack("routine", 1, Edges::busy, x -> x.move(ROUTINE, 1, 2));
         takenBack("field", 2, Edges::busy, x -> x.move(FIELD, 0, 3));
@@ -131,12 +139,14 @@ public final class EdgesUndoingTest extends Edges {
 
     // ---- 27 split
 
+    @Says("NONE;")
     static void p27_noSuchPart() {
         for (int part : new int[] {LEAST, -1, 4, 10, MOST}) {
             refused("split(" + part + ", 1)", NONE, Edges::busy, x -> x.split(part, 1));
         }
     }
 
+    @Says("none;")
     static void p27_noneInTheSet() {
         for (int part = 0; part < 4; part++) {
             int p = part;
@@ -144,6 +154,7 @@ public final class EdgesUndoingTest extends Edges {
         }
     }
 
+    @Says("BAD: the set (bits) has one that is not there,")
     static void p27_oneThatIsNotThere() {
         for (int bit = 5; bit < 32; bit++) {
             int set = 1 << bit;
@@ -160,6 +171,7 @@ public final class EdgesUndoingTest extends Edges {
         is("all 19 of 19", things(19, 0, 0).split(0, (1 << 19) - 1), 1);
     }
 
+    @Says("a FACE ROUTINE,")
     static void p27_aFaceRoutine() {
         refused("alone, of its part", BAD, Edges::busy, x -> x.split(3, 1 << 4));
         refused("with another one", BAD, Edges::busy, x -> x.split(0, 1 << 4 | 1));
@@ -168,6 +180,7 @@ public final class EdgesUndoingTest extends Edges {
         is("a pulled one", x.split(3, 1 << 4), 4);
     }
 
+    @Says("STATE: one is not of the PART;")
     static void p27_oneThatIsNotOfThePart() {
         refused("alone", STATE, Edges::busy, x -> x.split(0, 2));
         refused("with one that is", STATE, Edges::busy, x -> x.split(0, 1 | 4));
@@ -176,6 +189,7 @@ public final class EdgesUndoingTest extends Edges {
         is("one of them", busy().split(0, 8), 4);
     }
 
+    @Says({"SPLIT: the number of the new PART.", "FULL;"})
     static void p27_tenPartsAtMost() {
         RingUntie nine = Due.withParts(9);
         is("the tenth", nine.split(8, 1 << 8), 9);
@@ -183,6 +197,7 @@ public final class EdgesUndoingTest extends Edges {
         refused("an eleventh", FULL, () -> Due.withParts(10), x -> x.split(9, 1 << 9));
     }
 
+    @Says({"GUARDED.", "They change nothing."})
     static void p27_whichIsTold() {
         Build full = () -> {
             RingUntie x = Due.withParts(9);
@@ -222,6 +237,7 @@ public final class EdgesUndoingTest extends Edges {
         return x;
     }
 
+    @Says("SPLIT: ROUTINES of a PART, of a set, go to a new one.")
     static void p27_routinesAloneGo() {
         RingUntie x = things(3, 2, 2);
         body(x, 0, "put 1;news 1;call 1");
@@ -244,6 +260,7 @@ public final class EdgesUndoingTest extends Edges {
         is("the new one's tie counts", x.tie(2, 1, 0), 1);
     }
 
+    @Says("and all that is told in 4,")
     static void p27_takenBack() {
         takenBack("one of two", 4, Edges::busy, x -> x.split(0, 1));
         takenBack("both", 4, Edges::busy, x -> x.split(0, 9));
@@ -256,6 +273,7 @@ public final class EdgesUndoingTest extends Edges {
 
     // ---- 28 melt
 
+    @Says("NONE;")
     static void p28_noSuchPart() {
         for (int p : new int[] {LEAST, -1, 4, 10, MOST}) {
             refused("melt(" + p + ", 0)", NONE, Edges::busy, x -> x.melt(p, 0));
@@ -264,6 +282,7 @@ public final class EdgesUndoingTest extends Edges {
         }
     }
 
+    @Says("BAD: they are one;")
     static void p28_theyAreOne() {
         for (int part = 0; part < 4; part++) {
             int p = part;
@@ -277,6 +296,7 @@ public final class EdgesUndoingTest extends Edges {
         }, x -> x.melt(0, 0));
     }
 
+    @Says("MELT of q into p: how many PARTS there are.")
     static void p28_fromTenToOne() {
         RingUntie x = Due.withParts(10);
         for (int parts = 9; parts >= 1; parts--) {
@@ -288,6 +308,7 @@ public final class EdgesUndoingTest extends Edges {
         is("no more", x.melt(0, 1), NONE);
     }
 
+    @Says("MELT: all that lies in a PART q comes to p, PARTS behind q have a number less then")
     static void p28_eachPairOfFour() {
         for (int p = 0; p < 4; p++) {
             for (int q = 0; q < 4; q++) {
@@ -331,6 +352,7 @@ public final class EdgesUndoingTest extends Edges {
         }
     }
 
+    @Says("(what is ALLOWED goes with them; what was of q is not any more).")
     static void p28_whatIsAllowedGoesWithThem() {
         for (int p = 0; p < 4; p++) {
             for (int q = 0; q < 4; q++) {
@@ -392,6 +414,7 @@ public final class EdgesUndoingTest extends Edges {
         is("1, 2 was allowed, and is as 0, 1", y.tie(0, 1, 0), 0);
     }
 
+    @Says("GUARDED.")
     static void p28_guardedOnBothSides() {
         Build chain = () -> {
             RingUntie x = web(4, 01, 12);
@@ -437,6 +460,7 @@ public final class EdgesUndoingTest extends Edges {
         is("then 1 needs 0", x.tie(1, 0, 0), 1);
     }
 
+    @Says("and all that is told in 4,")
     static void p28_takenBack() {
         takenBack("the last into the first", 3, Edges::busy, x -> x.melt(0, 3));
         takenBack("the first into the last", 3, Edges::busy, x -> x.melt(3, 0));
@@ -445,6 +469,7 @@ public final class EdgesUndoingTest extends Edges {
 
     // ---- 29 turn
 
+    @Says("NONE;")
     static void p29_noSuchRoutineOrAct() {
         for (int r : new int[] {LEAST, -1, 5, 20, MOST}) {
             refused("turn(" + r + ", 0)", NONE, Edges::busy, x -> x.turn(r, 0));
@@ -459,6 +484,7 @@ public final class EdgesUndoingTest extends Edges {
         is("an eleventh", x.turn(0, 10), NONE);
     }
 
+    @Says("no call,")
     static void p29_callsAlone() {
         String[] texts = {"add 0", "mul 0", "put 0", "get 0", "call 0", "odd 0", "news 0"};
         for (int i = 0; i < 7; i++) {
@@ -476,6 +502,7 @@ public final class EdgesUndoingTest extends Edges {
         }
     }
 
+    @Says({"STATE: it is a FACE ROUTINE's,", "or tells of a FACE ROUTINE;"})
     static void p29_faceRoutines() {
         refused("an act of one", STATE, Edges::busy, x -> x.turn(4, 0));
         refused("it has one alone", NONE, Edges::busy, x -> x.turn(4, 1));
@@ -499,6 +526,7 @@ public final class EdgesUndoingTest extends Edges {
         return x;
     }
 
+    @Says({"TURN of ACT i: the number of the new NEWS.", "FULL;"})
     static void p29_eightNewsAtMost() {
         takenBack("the eighth", 7, () -> withNews(7), x -> x.turn(0, 0));
         refused("a ninth", FULL, () -> withNews(8), x -> x.turn(0, 0));
@@ -521,6 +549,8 @@ public final class EdgesUndoingTest extends Edges {
         refused("full", FULL, () -> withNews(8), x -> x.turn(0, 0));
     }
 
+    @Says("TURN: an ACT call of a ROUTINE becomes news of a new NEWS, which lies in the PART of the ROUTINE "
+        + "that it tells, and has this one as its HEARER.")
     static void p29_whatComesToBe() {
         RingUntie x = web(3, 02);
         x.price(2, 7);
@@ -537,6 +567,7 @@ public final class EdgesUndoingTest extends Edges {
         is("a ring, on guard", web(2, 01, 10).turn(0, 0), 0);
     }
 
+    @Says("GUARDED.")
     static void p29_onGuard() {
         RingUntie x = web(3, 01, 10, 12);
         x.guard(1);
@@ -560,6 +591,7 @@ public final class EdgesUndoingTest extends Edges {
         }
     }
 
+    @Says("and all that is told in 4,")
     static void p29_takenBack() {
         takenBack("turn", 1, Edges::busy, x -> x.turn(0, 0));
         takenBack("of the last act", 1, Edges::busy, x -> x.turn(2, 1));
@@ -567,6 +599,7 @@ public final class EdgesUndoingTest extends Edges {
 
     // ---- 30 face
 
+    @Says("NONE;")
     static void p30_noSuchRoutineOrAct() {
         for (int r : new int[] {LEAST, -1, 5, 20, MOST}) {
             refused("face(" + r + ", 0)", NONE, Edges::busy, x -> x.face(r, 0));
@@ -581,6 +614,7 @@ public final class EdgesUndoingTest extends Edges {
         is("an eleventh", x.face(0, 10), NONE);
     }
 
+    @Says("no call, odd,")
     static void p30_callsAndOddsAlone() {
         String[] texts = {"add 0", "mul 0", "put 0", "get 0", "call 0", "odd 0", "news 0"};
         for (int i = 0; i < 7; i++) {
@@ -598,6 +632,7 @@ public final class EdgesUndoingTest extends Edges {
         }
     }
 
+    @Says({"STATE: it is a FACE ROUTINE's,", "or tells of a FACE ROUTINE;"})
     static void p30_faceRoutines() {
         refused("an act of one", STATE, Edges::busy, x -> x.face(4, 0));
         refused("it has one alone", NONE, Edges::busy, x -> x.face(4, 1));
@@ -623,6 +658,7 @@ public final class EdgesUndoingTest extends Edges {
         return x;
     }
 
+    @Says("FULL: PARTS,")
     static void p30_tenPartsAtMost() {
         RingUntie x = withRoutines(9, 5);
         is("the tenth part", x.face(0, 0), 5);
@@ -631,6 +667,7 @@ public final class EdgesUndoingTest extends Edges {
         refused("an eleventh", FULL, () -> withRoutines(10, 5), y -> y.face(0, 1));
     }
 
+    @Says("ROUTINES;")
     static void p30_twentyRoutinesAtMost() {
         RingUntie x = withRoutines(3, 19);
         is("the 20th routine", x.face(0, 0), 19);
@@ -660,6 +697,10 @@ public final class EdgesUndoingTest extends Edges {
         refused("another one, full", FULL, faced, x -> x.face(0, 1));
     }
 
+    @Says({
+        "A FACE for ACT i: the number of the ROUTINE in it.",
+        "A FACE is a PART more, for an ACT call, odd of a ROUTINE r that tells of ROUTINE s:",
+        "a ROUTINE (a FACE ROUTINE) comes to be in it whose BODY is call s, and r's ACT tells of that one;"})
     static void p30_whatComesToBe() {
         RingUntie x = withRoutines(3, 3);
         is("face of a call", x.face(0, 0), 3);
@@ -677,6 +718,7 @@ public final class EdgesUndoingTest extends Edges {
         is("the third act is as it was", x.act(0, 2, 0), 0);
     }
 
+    @Says("GUARDED.")
     static void p30_onGuard() {
         RingUntie x = web(2, 01, 10);
         x.guard(1);
@@ -685,6 +727,7 @@ public final class EdgesUndoingTest extends Edges {
         is("guarded()", x.guarded(), NONE);
     }
 
+    @Says("and all that is told in 4,")
     static void p30_takenBack() {
         takenBack("of a call", 5, Edges::busy, x -> x.face(0, 0));
         takenBack("of an odd", 5, Edges::busy, x -> x.face(0, 1));
@@ -698,12 +741,14 @@ public final class EdgesUndoingTest extends Edges {
 
     // ---- 31 pull
 
+    @Says("NONE;")
     static void p31_noSuchRoutine() {
         for (int r : new int[] {LEAST, -1, 5, 20, MOST}) {
             refused("pull(" + r + ")", NONE, Edges::busy, x -> x.pull(r));
         }
     }
 
+    @Says("STATE: it is no FACE ROUTINE;")
     static void p31_noFaceRoutine() {
         for (int r = 0; r < 4; r++) {
             int routine = r;
@@ -717,6 +762,9 @@ public final class EdgesUndoingTest extends Edges {
         }, x -> x.pull(4));
     }
 
+    @Says({
+        "PULLED: how many ACTS tell of another ROUTINE then.",
+        "PULLED is a FACE ROUTINE: each ACT that tells of it tells of s again;"})
     static void p31_howManyActs() {
         RingUntie none = quiet();
         body(none, 1, "");
@@ -768,6 +816,7 @@ public final class EdgesUndoingTest extends Edges {
         }
     }
 
+    @Says("it stays where it is, with no BODY, and is no FACE any more.")
     static void p31_itStaysWithNoBody() {
         RingUntie x = quiet();
         x.pull(4);
@@ -784,6 +833,7 @@ public final class EdgesUndoingTest extends Edges {
         is("and get a face", x.face(0, 0), 5);
     }
 
+    @Says("GUARDED.")
     static void p31_guardedOnBothSides() {
         Build ring = () -> {
             RingUntie x = web(2, 01, 10);
@@ -802,12 +852,14 @@ public final class EdgesUndoingTest extends Edges {
         is("it is free", none.groups(), 0);
     }
 
+    @Says("and all that is told in 4,")
     static void p31_takenBack() {
         takenBack("pull", 1, Edges::busy, x -> x.pull(4));
     }
 
     // ---- 32 back
 
+    @Says("STATE: none is.")
     static void p32_noneIsKept() {
         refused("at first", STATE, RingUntie::new, RingUntie::back);
         refused("behind all", STATE, () -> {
@@ -828,6 +880,10 @@ public final class EdgesUndoingTest extends Edges {
         }, RingUntie::back);
     }
 
+    @Says({
+        "TAKEN BACK: how many changes are kept then.",
+        "the latest 20 are kept):",
+        "and all of it taken back step by step."})
     static void p32_theLatest20() {
         for (int changes = 0; changes <= 45; changes++) {
             RingUntie x = things(1, 0, 0);
@@ -867,6 +923,7 @@ public final class EdgesUndoingTest extends Edges {
         is("no more", x.back(), STATE);
     }
 
+    @Says({"as far as it was not refused;", "They change nothing."})
     static void p32_refusedOnesAreNotKept() {
         RingUntie x = busy();
         int kept = x.count(7);
@@ -908,6 +965,7 @@ public final class EdgesUndoingTest extends Edges {
         is("its number", x.act(0, 0, 1), 3);
     }
 
+    @Says("the program, and what is ALLOWED, are as they were ahead of it.")
     static void p32_whatIsAllowedIsAsItWas() {
         RingUntie x = parts(2);
         x.allow(0, 1, 3);
@@ -936,12 +994,15 @@ public final class EdgesUndoingTest extends Edges {
 
     // ---- 33 count
 
+    @Says("NONE.")
     static void p33_noSuchWhat() {
         for (int what : new int[] {LEAST, -1, 10, 11, MOST}) {
             refused("count(" + what + ")", NONE, Edges::busy, x -> x.count(what));
         }
     }
 
+    @Says("0 PARTS, 1 ROUTINES, 2 FIELDS, 3 NEWS, 4 TIES, 5 ACTS, 6 FACE ROUTINES, 7 changes that are kept, 8 "
+        + "DAY, 9 bytes of THE TAPE.")
     static void p33_each() {
         int[] due = {4, 5, 1, 1, 6, 10, 1, 14, 2, 8};
         for (int what = 0; what < 10; what++) {

@@ -4,9 +4,15 @@ import java.lang.reflect.Method;
 import java.lang.reflect.Modifier;
 import java.nio.file.Files;
 import java.nio.file.Path;
+import java.util.ArrayDeque;
 import java.util.ArrayList;
+import java.util.Arrays;
+import java.util.Deque;
+import java.util.IdentityHashMap;
 import java.util.List;
+import java.util.Map;
 import java.util.Set;
+import java.util.TreeMap;
 import java.util.TreeSet;
 import java.util.regex.Matcher;
 import java.util.regex.Pattern;
@@ -30,6 +36,10 @@ public final class LanguageTest {
         typesOfFields();
         methodsInside();
         lengthsOfMethods();
+        depthOfCalls();
+        loopsHaveAnEnd();
+        objectsThatAreMade();
+        roomOfOneObject();
         DUE.end("LanguageTest");
     }
 
@@ -159,10 +169,15 @@ public final class LanguageTest {
         DUE.holds("methods are found: " + found, found > FACE.size());
     }
 
+    /** The text of the class without comments, texts and signs. */
+    private static String code() throws Exception {
+        return Files.readString(SOURCE).replaceAll("(?s)/\\*.*?\\*/", "").replaceAll("//[^\n]*", "")
+            .replaceAll("\"[^\"\n]*\"", "\"\"").replaceAll("'[^'\n]'", "' '");
+    }
+
     private static void wordsInTheText() throws Exception {
         String text = Files.readString(SOURCE);
-        String code = text.replaceAll("(?s)/\\*.*?\\*/", "").replaceAll("//[^\n]*", "")
-            .replaceAll("\"[^\"\n]*\"", "\"\"").replaceAll("'[^'\n]'", "' '");
+        String code = code();
         DUE.holds("no texts are joined by +", !Pattern.compile("\"\\s*\\+|\\+\\s*\"").matcher(code).find());
         for (String word : List.of("throw", "try", "catch", "synchronized", "assert", "import", "package", "var",
                 "throws", "finally", "volatile", "native", "transient", "Object", "yield")) {
@@ -177,5 +192,149 @@ public final class LanguageTest {
             DUE.holds(used.group() + " is known", known.contains(used.group()));
         }
         DUE.holds("signs 1 to 127 alone", text.chars().allMatch(c -> c >= 1 && c <= 127));
+    }
+
+    /** Which names each method calls, by its own name: methods of one name count as one. */
+    private static Map<String, Set<String>> callsByName() throws Exception {
+        Set<String> names = new TreeSet<>();
+        for (Class<?> one : allClasses()) {
+            for (Method method : one.getDeclaredMethods()) {
+                names.add(method.getName());
+            }
+        }
+        Map<String, Set<String>> calls = new TreeMap<>();
+        Matcher m = Pattern.compile("(?m)^( +)(?:\\w+ )*[\\w\\[\\]]+ (\\w+)\\([^;{}]*\\) \\{\\n(?s:(.*?))^\\1\\}").matcher(code());
+        while (m.find()) {
+            if (names.contains(m.group(2))) {
+                Set<String> called = calls.computeIfAbsent(m.group(2), k -> new TreeSet<>());
+                Matcher call = Pattern.compile("\\b(\\w+)\\(").matcher(m.group(3));
+                while (call.find()) {
+                    if (names.contains(call.group(1))) {
+                        called.add(call.group(1));
+                    }
+                }
+            }
+        }
+        DUE.holds("all methods are found: " + names + " / " + calls.keySet(), calls.keySet().equals(names));
+        return calls;
+    }
+
+    /** Rules 8, 11: only a run calls itself again, 30 levels at most; else calls go eight deep at most. */
+    private static void depthOfCalls() throws Exception {
+        Map<String, Set<String>> calls = callsByName();
+        Set<String> again = new TreeSet<>();
+        for (String name : calls.keySet()) {
+            if (reached(calls, name).contains(name)) {
+                again.add(name);
+            }
+        }
+        DUE.holds("a run alone calls itself: " + again, again.equals(Set.of("work", "perform", "tellHearers")));
+        for (String name : calls.keySet()) {
+            int depth = depth(calls, again, name);
+            DUE.holds(name + " goes " + depth + " deep", depth <= 8);
+        }
+        DUE.holds("some go deeper than three", depth(calls, again, "body") > 3);
+    }
+
+    private static Set<String> reached(Map<String, Set<String>> calls, String from) {
+        Set<String> all = new TreeSet<>(calls.get(from));
+        int before = 0;
+        while (all.size() > before) {
+            before = all.size();
+            for (String name : List.copyOf(all)) {
+                all.addAll(calls.get(name));
+            }
+        }
+        return all;
+    }
+
+    private static int depth(Map<String, Set<String>> calls, Set<String> again, String name) {
+        int most = 0;
+        for (String called : calls.get(name)) {
+            if (!again.contains(name) || !again.contains(called)) {
+                most = Math.max(most, depth(calls, again, called));
+            }
+        }
+        return most + 1;
+    }
+
+    /** Rule 9: each loop counts, up or down, and its head says how far. */
+    private static void loopsHaveAnEnd() throws Exception {
+        String code = code();
+        Matcher all = Pattern.compile("\\b(for|while|do)\\b[^{]*\\{").matcher(code);
+        Pattern counts = Pattern.compile("for \\(int (\\w+) = [^;]+; \\1 (?:<|<=|>=) [^;]+; \\1(?:\\+\\+|--)\\) \\{");
+        int found = 0;
+        while (all.find()) {
+            found++;
+            DUE.holds("a loop with an end: " + all.group(), counts.matcher(all.group()).matches());
+        }
+        DUE.holds("loops are found", found > 20);
+    }
+
+    /** Rule 12: what is made with the object is used again; a change may need one program more, 20 in all. */
+    private static void objectsThatAreMade() throws Exception {
+        List<String> others = new ArrayList<>();
+        for (String line : code().split("\n")) {
+            if (line.matches(".*\\bnew\\b.*") && !line.matches(" +(private )?(final )?[A-Z]?[\\w\\[\\]]+ \\w+ = new [^;]+;")) {
+                others.add(line.trim());
+            }
+        }
+        DUE.holds("made elsewhere: " + others,
+            others.equals(List.of("return spare == null ? new Program() : spare;")));
+    }
+
+    /** All that an object holds behind 512 calls, which is all that it ever made but for two programs. */
+    private static void roomOfOneObject() throws Exception {
+        RingUntie x = new RingUntie();
+        int[] atFirst = room(x);
+        x.part();
+        x.part();
+        x.add(0, 0);
+        x.guard(1);
+        for (int call = 4; call < 512; call++) {
+            switch (call % 4) {
+                case 0: x.move(0, 0, 1); break;
+                case 1: x.move(0, 0, 0); break;
+                case 2: x.choice(); break;
+                default: x.bound(); break;
+            }
+        }
+        int[] atLast = room(x);
+        DUE.holds("changes were kept", x.count(7) == 20);
+        DUE.holds("objects at first: " + atFirst[0], atFirst[0] > 10 && atFirst[0] < 100);
+        DUE.holds("objects: " + atLast[0], atLast[0] < 400);
+        DUE.holds("fields and elements: " + atLast[1], atLast[1] > atFirst[1] && atLast[1] < 20000);
+    }
+
+    private static int[] room(Object root) throws Exception {
+        Map<Object, Boolean> seen = new IdentityHashMap<>();
+        Deque<Object> open = new ArrayDeque<>(List.of(root));
+        int[] sums = new int[2];
+        seen.put(root, true);
+        while (!open.isEmpty()) {
+            Object one = open.pop();
+            List<Object> parts = new ArrayList<>();
+            sums[0]++;
+            if (one instanceof int[]) {
+                sums[1] += ((int[]) one).length;
+            } else if (one.getClass().isArray()) {
+                sums[1] += ((Object[]) one).length;
+                parts.addAll(Arrays.asList((Object[]) one));
+            } else {
+                for (Field field : one.getClass().getDeclaredFields()) {
+                    if (!Modifier.isStatic(field.getModifiers())) {
+                        sums[1]++;
+                        field.setAccessible(true);
+                        parts.add(field.getType().isPrimitive() ? null : field.get(one));
+                    }
+                }
+            }
+            for (Object part : parts) {
+                if (part != null && seen.put(part, true) == null) {
+                    open.push(part);
+                }
+            }
+        }
+        return sums;
     }
 }
